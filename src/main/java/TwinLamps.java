@@ -264,7 +264,7 @@ public final class TwinLamps {
         int busiest = NONE;
         int most = 0;
         for (int hour = 0; hour < DAY; hour++) {
-            int wanted = Integer.bitCount(wantedByAwake(hour));
+            int wanted = wantedByAwake(hour);
             if (wanted > most) {
                 most = wanted;
                 busiest = hour;
@@ -320,7 +320,9 @@ public final class TwinLamps {
     public int strife(int lamp, int other) throws NoSuchElementException {
         needLamp(lamp);
         needLamp(other);
-        return strifeOf(lamp, other);
+        matching.setHours(lamp, now.hoursAwake(now.home[lamp]), rule.hoursWanted(now, lamp));
+        matching.setHours(other, now.hoursAwake(now.home[other]), rule.hoursWanted(now, other));
+        return matching.hoursAtOdds(lamp, other);
     }
 
     public int better(int lamp) throws NoSuchElementException {
@@ -331,10 +333,8 @@ public final class TwinLamps {
         if (lamp != NONE && (cast >> lamp & 1) == 0) {
             return NONE;
         }
-        for (int first = 0; first < now.lamps; first++) {
-            for (int second = 0; second < first; second++) {
-                matching.setCost(first, second, strifeOf(first, second));
-            }
+        for (int one = 0; one < now.lamps; one++) {
+            matching.setHours(one, now.hoursAwake(now.home[one]), rule.hoursWanted(now, one));
         }
         matching.weigh(cast);
         return lamp == NONE ? matching.leastCost(cast) : matching.partner(cast, lamp);
@@ -510,23 +510,13 @@ public final class TwinLamps {
     }
 
     private int wantedByAwake(int hourOfDay) {
-        int wanted = 0;
+        int many = 0;
         for (int lamp = 0; lamp < now.lamps; lamp++) {
             if (now.isAwake(now.home[lamp], hourOfDay) && rule.wantsLit(now, lamp, hourOfDay)) {
-                wanted |= 1 << lamp;
+                many++;
             }
         }
-        return wanted;
-    }
-
-    private int strifeOf(int lamp, int other) {
-        int awake = now.hoursAwake(now.home[lamp]);
-        int otherAwake = now.hoursAwake(now.home[other]);
-        int wanted = rule.hoursWanted(now, lamp);
-        int otherWanted = rule.hoursWanted(now, other);
-        int bothAwake = awake & otherAwake & (wanted ^ otherWanted);
-        int oneAwake = awake & ~otherAwake & wanted | otherAwake & ~awake & otherWanted;
-        return Integer.bitCount(bothAwake | oneAwake);
+        return many;
     }
 
     private int complaintsOfADay(int house, int sleeps) {
@@ -1503,24 +1493,46 @@ public final class TwinLamps {
         final int[] status = new int[3];
     }
 
-    /** Sets of lamps cast two by two at the least cost. */
+    /** Strife of two lamps, and sets of lamps cast two by two with the least of it. */
     private static final class Matching {
+        /** More than the strife of any row. */
         private static final int MUCH = 1000000;
 
+        /** By lamp: the hours of the day in which its house is awake, and wants it lit, as bits. */
+        private final int[] awake = new int[MOST_LAMPS];
+        private final int[] wanted = new int[MOST_LAMPS];
         private final int[][] cost = new int[MOST_LAMPS][MOST_LAMPS];
-        /** The least cost by set of lamps; MUCH for one of an odd number. */
+        /** The least cost by set of lamps of an even number. */
         private final int[] least = new int[1 << MOST_LAMPS];
 
-        void setCost(int first, int second, int itsCost) {
-            cost[first][second] = itsCost;
-            cost[second][first] = itsCost;
+        void setHours(int lamp, int itsAwake, int itsWanted) {
+            awake[lamp] = itsAwake;
+            wanted[lamp] = itsWanted;
         }
 
-        /** Fills the least costs of this set of lamps and of all sets within it. */
+        int hoursAtOdds(int first, int second) {
+            int bothAwake = awake[first] & awake[second] & (wanted[first] ^ wanted[second]);
+            int firstAlone = awake[first] & ~awake[second] & wanted[first];
+            int secondAlone = awake[second] & ~awake[first] & wanted[second];
+            return Integer.bitCount(bothAwake | firstAlone | secondAlone);
+        }
+
+        private void price(int lamps) {
+            for (int first = 0; first < MOST_LAMPS; first++) {
+                for (int second = first + 1; second < MOST_LAMPS; second++) {
+                    if ((lamps >> first & 1) == 1 && (lamps >> second & 1) == 1) {
+                        cost[first][second] = hoursAtOdds(first, second);
+                    }
+                }
+            }
+        }
+
+        /** Fills the least costs of this set of lamps and of all sets within it that can be cast two by two. */
         void weigh(int lamps) {
+            price(lamps);
             least[0] = 0;
             for (int set = 1; set < least.length && set <= lamps; set++) {
-                if ((set & ~lamps) == 0) {
+                if ((set & ~lamps) == 0 && Integer.bitCount(set) % 2 == 0) {
                     least[set] = MUCH;
                     int first = Integer.numberOfTrailingZeros(set);
                     for (int second = first + 1; second < MOST_LAMPS; second++) {

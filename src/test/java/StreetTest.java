@@ -158,6 +158,9 @@ final class StreetTest {
         faulty("wants ;", 1, 6);
         faulty("wants foo;", 3, 6);
         faulty("wants lamp;", 3, 6);
+        faulty("wants a;", 3, 6);
+        faulty("wants z;", 3, 6);
+        faulty("wants lampss;", 3, 6);
         faulty("wants or;", 3, 6);
         faulty("wants 1 or and;", 3, 11);
         faulty("wants 1 foo;", 1, 8);
@@ -193,6 +196,8 @@ final class StreetTest {
         faulty("wants ((((((10000", 2, 12);
         faulty("wants ((((((foo", 2, 12);
         faulty("wants ((((((or", 2, 12);
+        faulty("wants ((((((home", 2, 12);
+        faulty("wants ((((((awake", 2, 12);
         faulty("wants ((((((not 1", 2, 12);
         faulty("wants (((((((", 2, 12);
         faulty("wants ((((((+", 1, 12);
