@@ -6,17 +6,23 @@ import java.util.NoSuchElementException;
 final class Check {
     private int wrong = 0;
     private int asked = 0;
+    private String sentence = "";
 
     /** A call whose exception is looked for. */
     interface Call {
         void run();
     }
 
+    /** The document's sentence that the answers from here on stand for; SentencesTest looks it up there. */
+    void sentence(String text) {
+        sentence = "\"" + text + "\" ";
+    }
+
     void due(String call, long got, long want) {
         asked++;
         if (got != want) {
             wrong++;
-            System.out.println(call + " answered " + got + ", due is " + want);
+            System.out.println(sentence + call + " answered " + got + ", due is " + want);
         }
     }
 
@@ -44,7 +50,7 @@ final class Check {
             got = e.getClass().getName();
         }
         wrong++;
-        System.out.println(name + " threw " + got + ", due is " + due.getName());
+        System.out.println(sentence + name + " threw " + got + ", due is " + due.getName());
     }
 
     /** Ends the test: with exit code 1, if an answer was wrong. */
@@ -53,6 +59,11 @@ final class Check {
         if (wrong != 0 || asked == 0) {
             System.exit(1);
         }
+    }
+
+    /** Hours of the day from one on to another one less 1, as bits. */
+    static int row(int from, int to) {
+        return (1 << to) - (1 << from);
     }
 
     /** Feeds a text, filled up with blanks to rows of twenty bytes; the length of the text itself. */

@@ -11,6 +11,9 @@ final class ModelTest {
     private static final String[] WORDS = {"home", "tower", "alley", "ballroom", "lamp", "twins", "wants", "or", "and", "not",
         "hour", "kind", "oil", "house", "lamps", "awake", "foo", "x", "0", "1", "2", "7", "12", "23", "24", "99", "100", "9999",
         "10000", ";", "(", ")", "+", "-", "*", "/", "<", "=", ";", "(", "!", "A", "\t", "\u00e9"};
+    private static final String[] OF_EXPRESSIONS = {"1", "hour", "not", "or", "and", "+", "*", "<", "=", "(", ")", ";", "x", "10000", "!",
+        "wants"};
+    private static final String[] OF_LINES = {"home", "lamp", "twins", "wants", "0", "2", "24", "100", "12345", ";", "hour", "!"};
     private static final String[] CALLS = {"count", "house", "lamp", "hours", "flick", "trim", "breaks", "give", "sleep",
         "undo", "then", "burnt", "shining", "soonest", "busiest", "lasts", "grief", "quarrels", "joined", "strife", "better",
         "treaty", "fund", "signals", "see", "whose", "look", "forget", "game", "winter", "image", "restore", "street", "fault",
@@ -32,7 +35,23 @@ final class ModelTest {
         for (int text = 0; text < TEXTS; text++) {
             new ModelTest(-1 - text).text();
         }
+        allShortTexts("wants ", OF_EXPRESSIONS, 4);
+        allShortTexts("wants 1;wants ((((((", OF_EXPRESSIONS, 1);
+        allShortTexts("wants ((((((", OF_EXPRESSIONS, 2);
+        allShortTexts("wants (((((not not not not not not ", OF_EXPRESSIONS, 2);
+        allShortTexts("home 0 0;lamp 0 1;lamp 0 1;lamp 0 1;lamp 0 1;twins 0 1;", OF_LINES, 4);
+        allShortTexts("home 0 0;".repeat(8) + "lamp 7 1;".repeat(12), OF_LINES, 2);
         System.out.println("all answers as the model's");
+    }
+
+    /** Each row of at most so many of these tokens behind a text. */
+    private static void allShortTexts(String text, String[] tokens, int most) {
+        ModelTest test = new ModelTest(0);
+        test.tell(text);
+        test.both("count", 14);
+        for (int i = 0; i < tokens.length && most > 0; i++) {
+            allShortTexts(text + tokens[i] + " ", tokens, most - 1);
+        }
     }
 
     private void runOfCalls() {
