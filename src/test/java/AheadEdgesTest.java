@@ -145,6 +145,9 @@ final class AheadEdgesTest {
         TwinLamps x = Check.street("tower 6 18;lamp 0 9;");
         CHECK.due("busiest(0)", x.busiest(0), -1);
         CHECK.due("busiest(1)", x.busiest(1), 0);
+        TwinLamps late = Check.street("home 0 0;home 5 2;lamp 0 9;lamp 1 9;wants 23<hour;");
+        CHECK.due("busiest(0), no hour of the day is 24", late.busiest(0), -1);
+        CHECK.due("busiest(1), no hour of the day is 24", late.busiest(1), 0);
         TwinLamps none = new TwinLamps();
         CHECK.due("busiest(0) without houses", none.busiest(0), -1);
         CHECK.due("busiest(1) without houses", none.busiest(1), 0);
@@ -397,6 +400,11 @@ final class AheadEdgesTest {
         x.breaks(5);
         CHECK.due("none is left", x.better(-1), 0);
         CHECK.due("better(2)", x.better(2), -1);
+        TwinLamps firstAlone = byOil(new int[] {3, 9, 8, 1}, "twins 1 2;");
+        CHECK.due("0, alone, isn't cast: least strife", firstAlone.better(-1), 1);
+        CHECK.due("better(0), alone", firstAlone.better(0), -1);
+        CHECK.due("better(1)", firstAlone.better(1), 2);
+        CHECK.due("better(3), alone", firstAlone.better(3), -1);
         TwinLamps one = byOil(new int[] {0, 24}, "twins 0 1;");
         CHECK.due("one couple stays", one.better(-1), 24);
         CHECK.due("better(0) of one couple", one.better(0), 1);

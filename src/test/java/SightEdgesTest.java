@@ -216,6 +216,7 @@ final class SightEdgesTest {
         x.flick(0);
         CHECK.due("dark, lit a day later: look(0, 0)", x.look(0, 0), 24);
         CHECK.due("look(0, 1)", x.look(0, 1), 8);
+        CHECK.due("of 2: with 0 it has 1, with 1 it has 0, else 0 has 1: look(2, 1)", x.look(2, 1), 3);
         TwinLamps y = Check.street("home 0 0;lamp 0 9;lamp 0 9;lamp 0 9;lamp 0 9;twins 0 1;twins 2 3;wants 1;");
         y.see(0, 9, true);
         CHECK.due("all alike: look(0, 0)", y.look(0, 0), 1);
@@ -563,6 +564,47 @@ final class SightEdgesTest {
         CHECK.due("undo()", x.undo(), 0);
         CHECK.due("hour", x.count(3), 0);
         CHECK.due("undo()", x.undo(), -1);
+        imageKeepsWhatIsSeen();
+        imageKeepsActs();
+    }
+
+    private static void imageKeepsWhatIsSeen() {
+        TwinLamps x = Check.street("home 0 0;lamp 0 9;lamp 0 0;wants hour=3;");
+        x.see(0, 4, true);
+        x.see(1, 4, false);
+        x.see(0, 5, false);
+        x.image();
+        x.forget();
+        x.see(1, 1, true);
+        x.see(0, 1, true);
+        CHECK.due("other things seen", x.whose(0), 0);
+        x.restore();
+        CHECK.due("seen as it was", x.whose(0), SO_WITHOUT);
+        x.see(0, 3, true);
+        CHECK.due("one more is seen", x.whose(0), 0);
+        x.restore();
+        CHECK.due("and isn't any more", x.whose(0), SO_WITHOUT);
+    }
+
+    private static void imageKeepsActs() {
+        TwinLamps x = Check.street("home 0 0;lamp 0 99;");
+        for (int i = 0; i < 42; i++) {
+            x.trim(0, i);
+        }
+        x.image();
+        for (int i = 0; i < 42; i++) {
+            x.trim(0, 98 - i);
+        }
+        x.restore();
+        CHECK.due("acts", x.count(11), 40);
+        for (int i = 39; i >= 0; i--) {
+            CHECK.due("undo()", x.undo(), i);
+            CHECK.due("oil", x.lamp(0, 1), i + 1);
+        }
+        CHECK.due("restore() again", x.restore(), true);
+        CHECK.due("oil", x.lamp(0, 1), 41);
+        CHECK.due("undo()", x.undo(), 39);
+        CHECK.due("oil", x.lamp(0, 1), 40);
     }
 
     private static void imageInPlaceOfAnother() {

@@ -110,6 +110,22 @@ final class TextEdgesTest {
         CHECK.due("STATUS 0 stays", x.count(14), 1);
         CHECK.due("street(0) of an empty tape", x.street(0), 0);
         CHECK.due("count(0)", x.count(0), 0);
+        cut("wants hours;", 10, 1, 10);
+        cut("wants hours;", 11, 3, 6);
+        cut("home 0 0;lamp 0 00991;", 18, 1, 18);
+        cut("home 0 0;lamp 0 00991;", 20, 1, 20);
+        cut("home 0 0;lamp 0 00991;", 21, 2, 16);
+        cut("home 0 0    ;", 10, 1, 10);
+        cut(" ".repeat(596) + "home", 600, 1, 600);
+        cut(" ".repeat(594) + "home 1", 600, 1, 600);
+    }
+
+    /** What stands on the tape behind the first bytes counts for nothing, not for the last of their tokens either. */
+    private static void cut(String text, int n, int fault, int place) {
+        TwinLamps x = new TwinLamps();
+        Check.feed(x, text);
+        CHECK.due("street(" + n + ") of " + text, x.street(n), fault);
+        CHECK.due("fault() of it", x.fault(), place);
     }
 
     private static void streetAllAnew() {
@@ -131,6 +147,9 @@ final class TextEdgesTest {
         CHECK.due("what a tower wants by custom", x.lamp(0, 6), Check.row(18, 24) | Check.row(0, 6));
         CHECK.due("STATUS 1 stays", x.count(15), 1);
         CHECK.due("STATUS 2 stays", x.count(16), 1);
+        x.street(Check.feed(x, "home 0 0;lamp 0 9;wants not 0;"));
+        x.street(Check.feed(x, "home 0 0;lamp 0 9;wants 0;"));
+        CHECK.due("nothing is left of a longer rule", x.lamp(0, 6), 0);
     }
 
     private static void streetWithAFault() {
@@ -304,6 +323,9 @@ final class TextEdgesTest {
         faulty("homes 0 0;", 1, 0);
         faulty("hom 0 0;", 1, 0);
         faulty("hom e 0 0;", 1, 0);
+        faulty("come 0 0;", 1, 0);
+        faulty("hose 0 0;", 1, 0);
+        faulty("homa 0 0;", 1, 0);
         faulty("wants 1 oror 0;", 1, 8);
         faulty("wants nothour;", 3, 6);
         faulty("wants hours;", 3, 6);
@@ -344,6 +366,17 @@ final class TextEdgesTest {
             TwinLamps x = new TwinLamps();
             CHECK.due("street of byte " + sign, x.street(Check.feed(x, text)), blank || digit ? 0 : 1);
             CHECK.due("fault() of byte " + sign, x.fault(), blank || digit ? -1 : sign == ';' || joins ? 8 : 7);
+        }
+        for (int sign = 0; sign < 256; sign++) {
+            boolean blank = sign == 32 || sign == 10;
+            boolean digit = sign >= '0' && sign <= '9';
+            boolean letter = sign >= 'a' && sign <= 'z';
+            TwinLamps x = new TwinLamps();
+            CHECK.due("byte " + sign + " alone", x.street(Check.feed(x, "" + (char) sign)), blank ? 0 : 1);
+            CHECK.due("fault() of it", x.fault(), blank ? -1 : 0);
+            int fault = digit ? 0 : letter ? 3 : 1;
+            CHECK.due("byte " + sign + " as a part", x.street(Check.feed(x, "wants " + (char) sign + ";")), fault);
+            CHECK.due("fault() of it", x.fault(), digit ? -1 : blank || sign == '(' ? 7 : 6);
         }
         fine("\n\n home\n1 \n 2 ; \nwants(1+2)*3-4/5<6;");
         fine("home 1 2;lamp 0 3;wants(hour+1)*2-3/4=5;");
@@ -447,6 +480,8 @@ final class TextEdgesTest {
         for (int hour = 0; hour < 24; hour++) {
             gives("hour=" + hour, 1 << hour);
         }
+        gives("23<hour", 0);
+        gives("hour<0", 0);
         gives("kind=2", ALL_DAY);
         gives("oil=99", ALL_DAY);
         gives("house=1", ALL_DAY);
