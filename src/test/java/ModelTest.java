@@ -6,7 +6,9 @@ import java.util.Random;
 
 /** Random runs of calls, each answer held against that of the model; all by seeds, so that each run is alike. */
 final class ModelTest {
-    private static final int RUNS = 400;
+    private static final int RUNS = 1000;
+    /** A run ends well within the 512 calls that an object is used for. */
+    private static final int CALLS_OF_A_RUN = 410;
     private static final int TEXTS = 40000;
     private static final String[] WORDS = {"home", "tower", "alley", "ballroom", "lamp", "twins", "wants", "or", "and", "not",
         "hour", "kind", "oil", "house", "lamps", "awake", "foo", "x", "0", "1", "2", "7", "12", "23", "24", "99", "100", "9999",
@@ -23,6 +25,7 @@ final class ModelTest {
     private final Model model = new Model();
     private final TwinLamps x = new TwinLamps();
     private final List<String> log = new ArrayList<>();
+    private int calls = 0;
 
     private ModelTest(long seed) {
         random = new Random(seed);
@@ -57,7 +60,7 @@ final class ModelTest {
     private void runOfCalls() {
         both("count", 0);
         tell(street());
-        for (int i = 0; i < 250; i++) {
+        while (calls < CALLS_OF_A_RUN) {
             if (random.nextInt(80) == 0) {
                 tell(street());
             }
@@ -179,6 +182,7 @@ final class ModelTest {
     }
 
     private void both(String call, int... a) {
+        calls++;
         String want = model.answer(call, a);
         String got;
         try {
