@@ -53,6 +53,23 @@ final class Check {
         System.out.println(sentence + name + " threw " + got + ", due is " + due.getName());
     }
 
+    /** A street without a fault. */
+    void fine(String text) {
+        TwinLamps x = new TwinLamps();
+        due("street of " + text, x.street(feed(x, text)), 0);
+        due("fault() of " + text, x.fault(), -1);
+        due("STATUS 0 of " + text, x.count(14), 0);
+    }
+
+    /** A street with a fault at a place; nothing comes of it. */
+    void faulty(String text, int fault, int place) {
+        TwinLamps x = new TwinLamps();
+        due("street of " + text, x.street(feed(x, text)), fault);
+        due("fault() of " + text, x.fault(), place);
+        due("STATUS 0 of " + text, x.count(14), 1);
+        due("houses of " + text, x.count(0), 0);
+    }
+
     /** Ends the test: with exit code 1, if an answer was wrong. */
     void end() {
         System.out.println(wrong + " of " + asked + " answers were wrong");

@@ -80,132 +80,132 @@ final class StreetTest {
     }
 
     private static void linesWithoutFault() {
-        fine("");
-        fine(" \n ");
-        fine("home 6 22;");
-        fine("home6 22;tower\n0\n0 ; alley 23 0;ballroom 0 23;");
-        fine("home 0006 0023;lamp 0 0;lamp 0000 0099;twins 1 0;");
-        fine("wants 1;home 0 0;");
-        fine("alley 0 0;".repeat(8));
-        fine("home 0 0;" + "lamp 0 1;".repeat(12));
-        fine("wants 9999;");
-        fine("wants not(not 0)+1<2 and hour*oil/house-lamps=kind or awake;");
+        CHECK.fine("");
+        CHECK.fine(" \n ");
+        CHECK.fine("home 6 22;");
+        CHECK.fine("home6 22;tower\n0\n0 ; alley 23 0;ballroom 0 23;");
+        CHECK.fine("home 0006 0023;lamp 0 0;lamp 0000 0099;twins 1 0;");
+        CHECK.fine("wants 1;home 0 0;");
+        CHECK.fine("alley 0 0;".repeat(8));
+        CHECK.fine("home 0 0;" + "lamp 0 1;".repeat(12));
+        CHECK.fine("wants 9999;");
+        CHECK.fine("wants not(not 0)+1<2 and hour*oil/house-lamps=kind or awake;");
     }
 
     private static void faultsOfTokens() {
-        faulty("x", 1, 0);
-        faulty(";", 1, 0);
-        faulty("Home 6 22;", 1, 0);
-        faulty("house 6 22;", 1, 0);
-        faulty("homes 6 22;", 1, 0);
-        faulty("hom", 1, 0);
-        faulty("home\t6 22;", 1, 4);
-        faulty("home\r\n6 22;", 1, 4);
-        faulty("home", 1, 4);
-        faulty("home 6", 1, 6);
-        faulty("home 6 22", 1, 9);
-        faulty("home 6 22 \n", 1, 11);
-        faulty("home 6;", 1, 6);
-        faulty("home 6 22 3;", 1, 10);
-        faulty("home 6 22;;", 1, 10);
-        faulty("home home 22;", 1, 5);
-        faulty("home -6 22;", 1, 5);
-        faulty("home 6 22; 7", 1, 11);
-        faulty("home 6 22 12345;", 1, 10);
-        faulty("lamp", 1, 4);
-        faulty("twins", 1, 5);
-        faulty("wants", 1, 5);
-        faulty("or;", 1, 0);
-        faulty("hour;", 1, 0);
-        faulty("home 6 22x;", 1, 9);
+        CHECK.faulty("x", 1, 0);
+        CHECK.faulty(";", 1, 0);
+        CHECK.faulty("Home 6 22;", 1, 0);
+        CHECK.faulty("house 6 22;", 1, 0);
+        CHECK.faulty("homes 6 22;", 1, 0);
+        CHECK.faulty("hom", 1, 0);
+        CHECK.faulty("home\t6 22;", 1, 4);
+        CHECK.faulty("home\r\n6 22;", 1, 4);
+        CHECK.faulty("home", 1, 4);
+        CHECK.faulty("home 6", 1, 6);
+        CHECK.faulty("home 6 22", 1, 9);
+        CHECK.faulty("home 6 22 \n", 1, 11);
+        CHECK.faulty("home 6;", 1, 6);
+        CHECK.faulty("home 6 22 3;", 1, 10);
+        CHECK.faulty("home 6 22;;", 1, 10);
+        CHECK.faulty("home home 22;", 1, 5);
+        CHECK.faulty("home -6 22;", 1, 5);
+        CHECK.faulty("home 6 22; 7", 1, 11);
+        CHECK.faulty("home 6 22 12345;", 1, 10);
+        CHECK.faulty("lamp", 1, 4);
+        CHECK.faulty("twins", 1, 5);
+        CHECK.faulty("wants", 1, 5);
+        CHECK.faulty("or;", 1, 0);
+        CHECK.faulty("hour;", 1, 0);
+        CHECK.faulty("home 6 22x;", 1, 9);
     }
 
     private static void faultsOfNumbers() {
-        faulty("home 24 0;", 2, 5);
-        faulty("home 23 24;", 2, 8);
-        faulty("home 00006 2;", 2, 5);
-        faulty("home 6 00002;", 2, 7);
-        faulty("home 99999999999999999999 2;", 2, 5);
-        faulty("alley 0 0;".repeat(9), 2, 80);
-        faulty("alley 0 0;".repeat(8) + "home", 2, 80);
-        faulty("home 0 0;" + "lamp 0 1;".repeat(13), 2, 117);
-        faulty("home 0 0;" + "lamp 0 1;".repeat(12) + "lamp !", 2, 117);
-        faulty("lamp 0 1;", 3, 5);
-        faulty("home 0 0;lamp 1 1;", 3, 14);
-        faulty("lamp 0 1;home 0 0;", 3, 5);
-        faulty("lamp 00000 1;", 2, 5);
-        faulty("home 0 0;lamp 0 100;", 2, 16);
-        faulty("home 0 0;lamp 0 00001;", 2, 16);
-        faulty("home 0 0;lamp 9 1;", 3, 14);
+        CHECK.faulty("home 24 0;", 2, 5);
+        CHECK.faulty("home 23 24;", 2, 8);
+        CHECK.faulty("home 00006 2;", 2, 5);
+        CHECK.faulty("home 6 00002;", 2, 7);
+        CHECK.faulty("home 99999999999999999999 2;", 2, 5);
+        CHECK.faulty("alley 0 0;".repeat(9), 2, 80);
+        CHECK.faulty("alley 0 0;".repeat(8) + "home", 2, 80);
+        CHECK.faulty("home 0 0;" + "lamp 0 1;".repeat(13), 2, 117);
+        CHECK.faulty("home 0 0;" + "lamp 0 1;".repeat(12) + "lamp !", 2, 117);
+        CHECK.faulty("lamp 0 1;", 3, 5);
+        CHECK.faulty("home 0 0;lamp 1 1;", 3, 14);
+        CHECK.faulty("lamp 0 1;home 0 0;", 3, 5);
+        CHECK.faulty("lamp 00000 1;", 2, 5);
+        CHECK.faulty("home 0 0;lamp 0 100;", 2, 16);
+        CHECK.faulty("home 0 0;lamp 0 00001;", 2, 16);
+        CHECK.faulty("home 0 0;lamp 9 1;", 3, 14);
     }
 
     private static void faultsOfTwins() {
-        faulty("twins 0 0;", 3, 6);
-        faulty("home 0 0;lamp 0 1;twins 0 1;", 3, 26);
-        faulty("home 0 0;lamp 0 1;twins 1 0;", 3, 24);
-        faulty("home 0 0;lamp 0 1;twins 0 0;", 4, 26);
-        faulty(TWO_LAMPS + "twins 0 00001;", 2, 35);
-        faulty(TWO_LAMPS + "twins 0 1;twins 0 1;", 4, 43);
-        faulty(TWO_LAMPS + "lamp 0 1;twins 0 1;twins 2 1;", 4, 54);
-        faulty(TWO_LAMPS + "lamp 0 1;twins 0 1;twins 1 2;", 4, 52);
-        faulty(TWO_LAMPS + "twins 0 1;twins 2 0;", 3, 43);
-        faulty(TWO_LAMPS + "twins 0;", 1, 34);
+        CHECK.faulty("twins 0 0;", 3, 6);
+        CHECK.faulty("home 0 0;lamp 0 1;twins 0 1;", 3, 26);
+        CHECK.faulty("home 0 0;lamp 0 1;twins 1 0;", 3, 24);
+        CHECK.faulty("home 0 0;lamp 0 1;twins 0 0;", 4, 26);
+        CHECK.faulty(TWO_LAMPS + "twins 0 00001;", 2, 35);
+        CHECK.faulty(TWO_LAMPS + "twins 0 1;twins 0 1;", 4, 43);
+        CHECK.faulty(TWO_LAMPS + "lamp 0 1;twins 0 1;twins 2 1;", 4, 54);
+        CHECK.faulty(TWO_LAMPS + "lamp 0 1;twins 0 1;twins 1 2;", 4, 52);
+        CHECK.faulty(TWO_LAMPS + "twins 0 1;twins 2 0;", 3, 43);
+        CHECK.faulty(TWO_LAMPS + "twins 0;", 1, 34);
     }
 
     private static void faultsOfExpressions() {
-        faulty("wants 1;wants 1;", 5, 8);
-        faulty("wants 1;wants", 5, 8);
-        faulty("wants ;", 1, 6);
-        faulty("wants foo;", 3, 6);
-        faulty("wants lamp;", 3, 6);
-        faulty("wants a;", 3, 6);
-        faulty("wants z;", 3, 6);
-        faulty("wants lampss;", 3, 6);
-        faulty("wants or;", 3, 6);
-        faulty("wants 1 or and;", 3, 11);
-        faulty("wants 1 foo;", 1, 8);
-        faulty("wants 1 not 2;", 1, 8);
-        faulty("wants 1 + not 2;", 3, 10);
-        faulty("wants 1 < not 2;", 3, 10);
-        faulty("wants 1 * home;", 3, 10);
-        faulty("wants not;", 1, 9);
-        faulty("wants not", 1, 9);
-        faulty("wants not twins;", 3, 10);
-        faulty("wants 10000;", 2, 6);
-        faulty("wants 1+00000;", 2, 8);
-        faulty("wants 1 10000;", 1, 8);
-        faulty("wants 1<2<3;", 1, 9);
-        faulty("wants 1=2<3;", 1, 9);
-        faulty("wants (1;", 1, 8);
-        faulty("wants (1", 1, 8);
-        faulty("wants 1);", 1, 7);
-        faulty("wants ();", 1, 7);
-        faulty("wants +1;", 1, 6);
-        faulty("wants 1 , 2;", 1, 8);
-        faulty("wants hour hour;", 1, 11);
-        faulty("wants 1", 1, 7);
+        CHECK.faulty("wants 1;wants 1;", 5, 8);
+        CHECK.faulty("wants 1;wants", 5, 8);
+        CHECK.faulty("wants ;", 1, 6);
+        CHECK.faulty("wants foo;", 3, 6);
+        CHECK.faulty("wants lamp;", 3, 6);
+        CHECK.faulty("wants a;", 3, 6);
+        CHECK.faulty("wants z;", 3, 6);
+        CHECK.faulty("wants lampss;", 3, 6);
+        CHECK.faulty("wants or;", 3, 6);
+        CHECK.faulty("wants 1 or and;", 3, 11);
+        CHECK.faulty("wants 1 foo;", 1, 8);
+        CHECK.faulty("wants 1 not 2;", 1, 8);
+        CHECK.faulty("wants 1 + not 2;", 3, 10);
+        CHECK.faulty("wants 1 < not 2;", 3, 10);
+        CHECK.faulty("wants 1 * home;", 3, 10);
+        CHECK.faulty("wants not;", 1, 9);
+        CHECK.faulty("wants not", 1, 9);
+        CHECK.faulty("wants not twins;", 3, 10);
+        CHECK.faulty("wants 10000;", 2, 6);
+        CHECK.faulty("wants 1+00000;", 2, 8);
+        CHECK.faulty("wants 1 10000;", 1, 8);
+        CHECK.faulty("wants 1<2<3;", 1, 9);
+        CHECK.faulty("wants 1=2<3;", 1, 9);
+        CHECK.faulty("wants (1;", 1, 8);
+        CHECK.faulty("wants (1", 1, 8);
+        CHECK.faulty("wants 1);", 1, 7);
+        CHECK.faulty("wants ();", 1, 7);
+        CHECK.faulty("wants +1;", 1, 6);
+        CHECK.faulty("wants 1 , 2;", 1, 8);
+        CHECK.faulty("wants hour hour;", 1, 11);
+        CHECK.faulty("wants 1", 1, 7);
     }
 
     private static void faultsOfNests() {
-        fine("wants not not not not not not 1;");
-        faulty("wants not not not not not not not 1;", 2, 30);
-        fine("wants not not not not not not(not 1);");
-        fine("wants not not not not not not 1 and not not 1 or not 1;");
-        fine("wants (((((1)))));");
-        faulty("wants ((((((1))))));", 2, 12);
-        faulty("wants ((((((10000", 2, 12);
-        faulty("wants ((((((foo", 2, 12);
-        faulty("wants ((((((or", 2, 12);
-        faulty("wants ((((((home", 2, 12);
-        faulty("wants ((((((awake", 2, 12);
-        faulty("wants ((((((not 1", 2, 12);
-        faulty("wants (((((((", 2, 12);
-        faulty("wants ((((((+", 1, 12);
-        faulty("wants (((((()", 1, 12);
-        faulty("wants ((((((!", 1, 12);
-        faulty("wants ((((((", 1, 12);
-        fine("wants (((((1)+(2))+(3))+(4))+(5))+(6);");
-        faulty("wants (1)+(((((1+(1))))));", 2, 18);
+        CHECK.fine("wants not not not not not not 1;");
+        CHECK.faulty("wants not not not not not not not 1;", 2, 30);
+        CHECK.fine("wants not not not not not not(not 1);");
+        CHECK.fine("wants not not not not not not 1 and not not 1 or not 1;");
+        CHECK.fine("wants (((((1)))));");
+        CHECK.faulty("wants ((((((1))))));", 2, 12);
+        CHECK.faulty("wants ((((((10000", 2, 12);
+        CHECK.faulty("wants ((((((foo", 2, 12);
+        CHECK.faulty("wants ((((((or", 2, 12);
+        CHECK.faulty("wants ((((((home", 2, 12);
+        CHECK.faulty("wants ((((((awake", 2, 12);
+        CHECK.faulty("wants ((((((not 1", 2, 12);
+        CHECK.faulty("wants (((((((", 2, 12);
+        CHECK.faulty("wants ((((((+", 1, 12);
+        CHECK.faulty("wants (((((()", 1, 12);
+        CHECK.faulty("wants ((((((!", 1, 12);
+        CHECK.faulty("wants ((((((", 1, 12);
+        CHECK.fine("wants (((((1)+(2))+(3))+(4))+(5))+(6);");
+        CHECK.faulty("wants (1)+(((((1+(1))))));", 2, 18);
     }
 
     private static void whatAFaultLeaves() {
@@ -303,21 +303,6 @@ final class StreetTest {
         CHECK.due("a ballroom that sleeps from 22 on", x.lamp(3, 6), 0x3C0000);
         CHECK.due("a ballroom till 9", x.lamp(4, 6), 0xFC01FF);
         CHECK.due("a home always awake", x.lamp(5, 6), 0xFC003F);
-    }
-
-    private static void fine(String text) {
-        TwinLamps x = new TwinLamps();
-        CHECK.due("street of " + text, x.street(Check.feed(x, text)), 0);
-        CHECK.due("fault() of " + text, x.fault(), -1);
-        CHECK.due("STATUS 0 of " + text, x.count(14), 0);
-    }
-
-    private static void faulty(String text, int fault, int place) {
-        TwinLamps x = new TwinLamps();
-        CHECK.due("street of " + text, x.street(Check.feed(x, text)), fault);
-        CHECK.due("fault() of " + text, x.fault(), place);
-        CHECK.due("STATUS 0 of " + text, x.count(14), 1);
-        CHECK.due("houses of " + text, x.count(0), 0);
     }
 
     /** In which hours a lamp of a ballroom, awake from 22 to 1, is wanted by this rule. */

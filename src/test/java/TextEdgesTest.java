@@ -241,7 +241,7 @@ final class TextEdgesTest {
         }
         CHECK.due("house(7, 2)", x.house(7, 2), 7);
         CHECK.noSuch("house(8, 0)", () -> x.house(8, 0));
-        faulty("home 0 0;".repeat(8) + "home 0 0;", 2, 72);
+        CHECK.faulty("home 0 0;".repeat(8) + "home 0 0;", 2, 72);
     }
 
     private static void wakesAndSleeps() {
@@ -253,8 +253,8 @@ final class TextEdgesTest {
             CHECK.due("house(" + house + ", 1)", x.house(house, 1), wakes[house]);
             CHECK.due("house(" + house + ", 2)", x.house(house, 2), sleeps[house]);
         }
-        faulty("home 24 0;", 2, 5);
-        faulty("home 0 24;", 2, 7);
+        CHECK.faulty("home 24 0;", 2, 5);
+        CHECK.faulty("home 0 24;", 2, 7);
     }
 
     private static void awakeHours() {
@@ -294,13 +294,13 @@ final class TextEdgesTest {
         CHECK.due("lamp(1, 1)", x.lamp(1, 1), 99);
         CHECK.due("lamp(11, 1)", x.lamp(11, 1), 98);
         CHECK.noSuch("lamp(12, 0)", () -> x.lamp(12, 0));
-        faulty("home 0 0;" + "lamp 0 5;".repeat(12) + "lamp 0 5;", 2, 117);
-        faulty("home 0 0;lamp 0 100;", 2, 16);
+        CHECK.faulty("home 0 0;" + "lamp 0 5;".repeat(12) + "lamp 0 5;", 2, 117);
+        CHECK.faulty("home 0 0;lamp 0 100;", 2, 16);
         CHECK.sentence("a TWIN (another LAMP, whose twin it is; or none: a singleton).");
         CHECK.due("lamp(0, 2)", x.lamp(0, 2), 11);
         CHECK.due("lamp(11, 2)", x.lamp(11, 2), 0);
         CHECK.due("lamp(1, 2)", x.lamp(1, 2), -1);
-        faulty(LAMPS + "twins 2 2;", 4, 53);
+        CHECK.faulty(LAMPS + "twins 2 2;", 4, 53);
     }
 
     private static void longestTexts() {
@@ -314,42 +314,42 @@ final class TextEdgesTest {
         CHECK.due("a sum of 285", y.lamp(0, 6), ALL_DAY);
         TwinLamps z = Check.street("home 0 0;lamp 0 1;wants " + "not 0 and ".repeat(57) + "0=0+1;");
         CHECK.due("an and of 58", z.lamp(0, 6), 0);
-        faulty(" ".repeat(599) + "1", 1, 599);
+        CHECK.faulty(" ".repeat(599) + "1", 1, 599);
     }
 
     private static void words() {
         CHECK.sentence("TOKENS: words (a .. z, the longest row),");
-        faulty("homelamp 0 0;", 1, 0);
-        faulty("homes 0 0;", 1, 0);
-        faulty("hom 0 0;", 1, 0);
-        faulty("hom e 0 0;", 1, 0);
-        faulty("come 0 0;", 1, 0);
-        faulty("hose 0 0;", 1, 0);
-        faulty("homa 0 0;", 1, 0);
-        faulty("wants 1 oror 0;", 1, 8);
-        faulty("wants nothour;", 3, 6);
-        faulty("wants hours;", 3, 6);
-        faulty("wants a;", 3, 6);
-        faulty("wants z;", 3, 6);
-        faulty("wants `;", 1, 6);
-        faulty("wants {;", 1, 6);
-        faulty("wants Z;", 1, 6);
-        faulty("home`0 0;", 1, 4);
-        faulty("home{0 0;", 1, 4);
-        faulty("homE 0 0;", 1, 0);
-        fine("home0 0;lamp0 1;lamp0 1;twins0 1;wants1or1and not0;");
+        CHECK.faulty("homelamp 0 0;", 1, 0);
+        CHECK.faulty("homes 0 0;", 1, 0);
+        CHECK.faulty("hom 0 0;", 1, 0);
+        CHECK.faulty("hom e 0 0;", 1, 0);
+        CHECK.faulty("come 0 0;", 1, 0);
+        CHECK.faulty("hose 0 0;", 1, 0);
+        CHECK.faulty("homa 0 0;", 1, 0);
+        CHECK.faulty("wants 1 oror 0;", 1, 8);
+        CHECK.faulty("wants nothour;", 3, 6);
+        CHECK.faulty("wants hours;", 3, 6);
+        CHECK.faulty("wants a;", 3, 6);
+        CHECK.faulty("wants z;", 3, 6);
+        CHECK.faulty("wants `;", 1, 6);
+        CHECK.faulty("wants {;", 1, 6);
+        CHECK.faulty("wants Z;", 1, 6);
+        CHECK.faulty("home`0 0;", 1, 4);
+        CHECK.faulty("home{0 0;", 1, 4);
+        CHECK.faulty("homE 0 0;", 1, 0);
+        CHECK.fine("home0 0;lamp0 1;lamp0 1;twins0 1;wants1or1and not0;");
     }
 
     private static void numbers() {
         CHECK.sentence("NUMBERS (1 to 4 digits),");
-        fine("home 0 0;home 00 00;home 000 000;home 0000 0023;");
-        fine("home 0 0;lamp 0000 0099;wants 9999;");
-        faulty("home 00000 0;", 2, 5);
-        faulty("wants 00000;", 2, 6);
-        faulty("home 1 2 3;", 1, 9);
-        faulty("home 1/2;", 1, 6);
-        faulty("home 1:2;", 1, 6);
-        faulty("home 12;", 1, 7);
+        CHECK.fine("home 0 0;home 00 00;home 000 000;home 0000 0023;");
+        CHECK.fine("home 0 0;lamp 0000 0099;wants 9999;");
+        CHECK.faulty("home 00000 0;", 2, 5);
+        CHECK.faulty("wants 00000;", 2, 6);
+        CHECK.faulty("home 1 2 3;", 1, 9);
+        CHECK.faulty("home 1/2;", 1, 6);
+        CHECK.faulty("home 1:2;", 1, 6);
+        CHECK.faulty("home 12;", 1, 7);
         TwinLamps x = Check.street("home 0009 0010;");
         CHECK.due("house(0, 1)", x.house(0, 1), 9);
         CHECK.due("house(0, 2)", x.house(0, 2), 10);
@@ -378,35 +378,35 @@ final class TextEdgesTest {
             CHECK.due("byte " + sign + " as a part", x.street(Check.feed(x, "wants " + (char) sign + ";")), fault);
             CHECK.due("fault() of it", x.fault(), digit ? -1 : blank || sign == '(' ? 7 : 6);
         }
-        fine("\n\n home\n1 \n 2 ; \nwants(1+2)*3-4/5<6;");
-        fine("home 1 2;lamp 0 3;wants(hour+1)*2-3/4=5;");
-        fine("     ");
-        fine("\n");
+        CHECK.fine("\n\n home\n1 \n 2 ; \nwants(1+2)*3-4/5<6;");
+        CHECK.fine("home 1 2;lamp 0 3;wants(hour+1)*2-3/4=5;");
+        CHECK.fine("     ");
+        CHECK.fine("\n");
     }
 
     private static void lines() {
         CHECK.sentence("STREET: LINE*. LINE: (('home' | 'tower' | 'alley' | 'ballroom') WAKES SLEEPS | 'lamp' HOUSE OIL"
             + " | 'twins' LAMP LAMP | 'wants' EXPR) ';', all in capitals but EXPR being NUMBERS.");
-        fine("");
-        fine("wants 1;");
-        fine("wants 1;home 0 0;");
-        fine("home 0 0;lamp 0 1;home 0 0;lamp 1 1;twins 0 1;wants 1;lamp 0 1;");
-        faulty(";", 1, 0);
-        faulty("1;", 1, 0);
-        faulty("(home 0 0;", 1, 0);
+        CHECK.fine("");
+        CHECK.fine("wants 1;");
+        CHECK.fine("wants 1;home 0 0;");
+        CHECK.fine("home 0 0;lamp 0 1;home 0 0;lamp 1 1;twins 0 1;wants 1;lamp 0 1;");
+        CHECK.faulty(";", 1, 0);
+        CHECK.faulty("1;", 1, 0);
+        CHECK.faulty("(home 0 0;", 1, 0);
         for (String line : new String[] {"home", "tower", "alley", "ballroom", "lamp", "twins"}) {
             String two = LAMPS + line;
             int at = two.length();
-            faulty(two + ";", 1, at);
-            faulty(two + " 0;", 1, at + 2);
-            faulty(two + " 0 1 1;", 1, at + 5);
-            faulty(two + " 0 1,", 1, at + 4);
-            faulty(two + " 0 1 wants 1;", 1, at + 5);
-            faulty(two + " -0 1;", 1, at + 1);
-            faulty(two + " hour 1;", 1, at + 1);
-            faulty(two + " 0 hour;", 1, at + 3);
-            faulty(two + " (0) 1;", 1, at + 1);
-            fine(two + " 0 1;");
+            CHECK.faulty(two + ";", 1, at);
+            CHECK.faulty(two + " 0;", 1, at + 2);
+            CHECK.faulty(two + " 0 1 1;", 1, at + 5);
+            CHECK.faulty(two + " 0 1,", 1, at + 4);
+            CHECK.faulty(two + " 0 1 wants 1;", 1, at + 5);
+            CHECK.faulty(two + " -0 1;", 1, at + 1);
+            CHECK.faulty(two + " hour 1;", 1, at + 1);
+            CHECK.faulty(two + " 0 hour;", 1, at + 3);
+            CHECK.faulty(two + " (0) 1;", 1, at + 1);
+            CHECK.fine(two + " 0 1;");
         }
     }
 
@@ -430,19 +430,19 @@ final class TextEdgesTest {
         gives("1 and 2=2", ALL_DAY);
         gives("(1<2)<3", ALL_DAY);
         gives("(3<2)=0", ALL_DAY);
-        faulty("wants 1<2<3;", 1, 9);
-        faulty("wants 1=1=1;", 1, 9);
-        faulty("wants 1<2=1;", 1, 9);
-        faulty("wants not;", 1, 9);
-        faulty("wants 1 not;", 1, 8);
-        faulty("wants -1;", 1, 6);
-        faulty("wants 1+-1;", 1, 8);
-        faulty("wants ();", 1, 7);
-        faulty("wants (1;", 1, 8);
-        faulty("wants 1);", 1, 7);
-        faulty("wants 1 1;", 1, 8);
-        faulty("wants (1)(1);", 1, 9);
-        faulty("wants hour hour;", 1, 11);
+        CHECK.faulty("wants 1<2<3;", 1, 9);
+        CHECK.faulty("wants 1=1=1;", 1, 9);
+        CHECK.faulty("wants 1<2=1;", 1, 9);
+        CHECK.faulty("wants not;", 1, 9);
+        CHECK.faulty("wants 1 not;", 1, 8);
+        CHECK.faulty("wants -1;", 1, 6);
+        CHECK.faulty("wants 1+-1;", 1, 8);
+        CHECK.faulty("wants ();", 1, 7);
+        CHECK.faulty("wants (1;", 1, 8);
+        CHECK.faulty("wants 1);", 1, 7);
+        CHECK.faulty("wants 1 1;", 1, 8);
+        CHECK.faulty("wants (1)(1);", 1, 9);
+        CHECK.faulty("wants hour hour;", 1, 11);
     }
 
     private static void reckoning() {
@@ -506,20 +506,20 @@ final class TextEdgesTest {
 
     private static void firstFault() {
         CHECK.sentence("FAULTS, the first along the text, at a TOKEN's first byte, of one TOKEN the least:");
-        faulty("home 24 12345;!", 2, 5);
-        faulty("lamp 0 100;home 24 0;", 3, 5);
-        faulty("home 1 1;twins 0 0;wants 1;wants 1;", 3, 15);
-        faulty("wants 1;wants 12345;", 5, 8);
-        faulty("wants 1 foo;", 1, 8);
-        faulty("home 1 123456789;", 2, 7);
-        faulty("  home 1 2;  tower", 1, 18);
-        faulty("home 1 2 12345;", 1, 9);
-        faulty("lamp 12345 1;", 2, 5);
-        faulty("twins 12345 1;", 2, 6);
-        faulty(LAMPS + "twins 0 1;twins 12345 1;", 2, 61);
-        faulty("wants 1 wants 1;", 1, 8);
-        faulty("home 0 0;".repeat(8) + "lamp home", 1, 77);
-        faulty("wants ((((((nothing", 2, 12);
+        CHECK.faulty("home 24 12345;!", 2, 5);
+        CHECK.faulty("lamp 0 100;home 24 0;", 3, 5);
+        CHECK.faulty("home 1 1;twins 0 0;wants 1;wants 1;", 3, 15);
+        CHECK.faulty("wants 1;wants 12345;", 5, 8);
+        CHECK.faulty("wants 1 foo;", 1, 8);
+        CHECK.faulty("home 1 123456789;", 2, 7);
+        CHECK.faulty("  home 1 2;  tower", 1, 18);
+        CHECK.faulty("home 1 2 12345;", 1, 9);
+        CHECK.faulty("lamp 12345 1;", 2, 5);
+        CHECK.faulty("twins 12345 1;", 2, 6);
+        CHECK.faulty(LAMPS + "twins 0 1;twins 12345 1;", 2, 61);
+        CHECK.faulty("wants 1 wants 1;", 1, 8);
+        CHECK.faulty("home 0 0;".repeat(8) + "lamp home", 1, 77);
+        CHECK.faulty("wants ((((((nothing", 2, 12);
     }
 
     /** A text of tokens, cut behind each of them: what is due next isn't there. */
@@ -531,111 +531,111 @@ final class TextEdgesTest {
         for (String token : tokens) {
             text.append(token);
             if (token.equals(";")) {
-                fine(text.toString());
-                fine(text + " \n ");
+                CHECK.fine(text.toString());
+                CHECK.fine(text + " \n ");
             } else {
-                faulty(text.toString(), 1, text.length());
-                faulty(text + " ", 1, text.length() + 1);
-                faulty(text + "\n \n", 1, text.length() + 3);
+                CHECK.faulty(text.toString(), 1, text.length());
+                CHECK.faulty(text + " ", 1, text.length() + 1);
+                CHECK.faulty(text + "\n \n", 1, text.length() + 3);
             }
         }
-        faulty("wants ((((((", 1, 12);
-        faulty("wants not not not not not not", 1, 29);
+        CHECK.faulty("wants ((((((", 1, 12);
+        CHECK.faulty("wants not not not not not not", 1, 29);
     }
 
     private static void tokensThatCannotStand() {
         CHECK.sentence("1 a TOKEN that can't stand there, or is none");
         for (String token : new String[] {";", "7", "12345", "(", ")", "+", "-", "*", "/", "<", "=", "hour", "or", "foo", "!", "A"}) {
-            faulty(token, 1, 0);
-            faulty("home 0 0; " + token, 1, 10);
+            CHECK.faulty(token, 1, 0);
+            CHECK.faulty("home 0 0; " + token, 1, 10);
         }
         for (String token : new String[] {"7", "12345", "(", ")", "+", "-", "*", "/", "<", "=", "hour", "wants", "home", "foo", "!"}) {
-            faulty("home 0 0 " + token, 1, 9);
-            faulty(LAMPS + "twins 0 1 " + token, 1, 55);
+            CHECK.faulty("home 0 0 " + token, 1, 9);
+            CHECK.faulty(LAMPS + "twins 0 1 " + token, 1, 55);
         }
         for (String token : new String[] {"7", "12345", "(", "hour", "not", "wants", "home", "foo", "!"}) {
-            faulty("wants 1 " + token, 1, 8);
-            faulty("wants (1) " + token, 1, 10);
-            faulty("wants (1 " + token, 1, 9);
-            faulty("wants hour " + token, 1, 11);
+            CHECK.faulty("wants 1 " + token, 1, 8);
+            CHECK.faulty("wants (1) " + token, 1, 10);
+            CHECK.faulty("wants (1 " + token, 1, 9);
+            CHECK.faulty("wants hour " + token, 1, 11);
         }
         for (String token : new String[] {";", ")", "+", "-", "*", "/", "<", "=", "!", "A"}) {
             for (String head : new String[] {"wants ", "wants (", "wants not ", "wants 1+", "wants 1-", "wants 1*", "wants 1/",
                 "wants 1<", "wants 1=", "wants 1 and ", "wants 1 or "}) {
-                faulty(head + token, 1, head.length());
+                CHECK.faulty(head + token, 1, head.length());
             }
         }
-        faulty("wants (1;", 1, 8);
-        faulty("wants 1)", 1, 7);
+        CHECK.faulty("wants (1;", 1, 8);
+        CHECK.faulty("wants 1)", 1, 7);
     }
 
     private static void tooMuch() {
         CHECK.sentence("2 one that can, but is too much: a NUMBER of 5 digits or more, or (not in an EXPR) not as told,");
-        faulty("home 00001 0;", 2, 5);
-        faulty("home 0 00001;", 2, 7);
-        faulty("lamp 00000 0;", 2, 5);
-        faulty("home 0 0;lamp 0 00000;", 2, 16);
-        faulty(LAMPS + "twins 00000 1;", 2, 51);
-        faulty(LAMPS + "twins 0 00001;", 2, 53);
-        faulty("wants 10000;", 2, 6);
-        faulty("wants 1+00001;", 2, 8);
-        faulty("wants 1 or (99999999999999999999);", 2, 12);
-        faulty("home 24 0;", 2, 5);
-        faulty("home 9999 0;", 2, 5);
-        faulty("tower 0 24;", 2, 8);
-        faulty("ballroom 23 9999;", 2, 12);
-        faulty("alley 0 0;lamp 0 100;", 2, 17);
-        faulty("alley 0 0;lamp 0 9999;", 2, 17);
-        fine("wants 24+100+9999;");
-        fine("home 23 23;lamp 0 99;");
+        CHECK.faulty("home 00001 0;", 2, 5);
+        CHECK.faulty("home 0 00001;", 2, 7);
+        CHECK.faulty("lamp 00000 0;", 2, 5);
+        CHECK.faulty("home 0 0;lamp 0 00000;", 2, 16);
+        CHECK.faulty(LAMPS + "twins 00000 1;", 2, 51);
+        CHECK.faulty(LAMPS + "twins 0 00001;", 2, 53);
+        CHECK.faulty("wants 10000;", 2, 6);
+        CHECK.faulty("wants 1+00001;", 2, 8);
+        CHECK.faulty("wants 1 or (99999999999999999999);", 2, 12);
+        CHECK.faulty("home 24 0;", 2, 5);
+        CHECK.faulty("home 9999 0;", 2, 5);
+        CHECK.faulty("tower 0 24;", 2, 8);
+        CHECK.faulty("ballroom 23 9999;", 2, 12);
+        CHECK.faulty("alley 0 0;lamp 0 100;", 2, 17);
+        CHECK.faulty("alley 0 0;lamp 0 9999;", 2, 17);
+        CHECK.fine("wants 24+100+9999;");
+        CHECK.fine("home 23 23;lamp 0 99;");
     }
 
     private static void tooManyLines() {
         CHECK.sentence("the first TOKEN of the 9th HOUSE, the 13th LAMP,");
         String houses = "home 0 0;tower 0 0;alley 0 0;ballroom 0 0;".repeat(2);
         for (String kind : new String[] {"home", "tower", "alley", "ballroom"}) {
-            faulty(houses + kind + " 0 0;", 2, houses.length());
-            faulty(houses + kind, 2, houses.length());
-            faulty(houses + kind + " 24", 2, houses.length());
+            CHECK.faulty(houses + kind + " 0 0;", 2, houses.length());
+            CHECK.faulty(houses + kind, 2, houses.length());
+            CHECK.faulty(houses + kind + " 24", 2, houses.length());
         }
-        fine(houses + "lamp 7 1;");
+        CHECK.fine(houses + "lamp 7 1;");
         String lamps = "home 0 0;" + "lamp 0 1;".repeat(12);
-        faulty(lamps + "lamp 0 1;", 2, lamps.length());
-        faulty(lamps + "lamp", 2, lamps.length());
-        faulty(lamps + "lamp 9 1;", 2, lamps.length());
-        fine(lamps + "home 0 0;twins 11 10;");
+        CHECK.faulty(lamps + "lamp 0 1;", 2, lamps.length());
+        CHECK.faulty(lamps + "lamp", 2, lamps.length());
+        CHECK.faulty(lamps + "lamp 9 1;", 2, lamps.length());
+        CHECK.fine(lamps + "home 0 0;twins 11 10;");
     }
 
     private static void tooDeep() {
         CHECK.sentence("of an EXPR within 6 others (a NUMBER, any word, a parenthesis),");
-        fine("wants (((((1)))));");
-        fine("wants (((((not not not not not not 1)))));");
+        CHECK.fine("wants (((((1)))));");
+        CHECK.fine("wants (((((not not not not not not 1)))));");
         String six = "wants ((((((";
         for (String first : new String[] {"1", "12345", "hour", "not", "or", "and", "home", "wants", "foo", "("}) {
-            faulty(six + first, 2, 12);
-            faulty(six + " " + first, 2, 13);
+            CHECK.faulty(six + first, 2, 12);
+            CHECK.faulty(six + " " + first, 2, 13);
         }
         for (String first : new String[] {")", ";", "+", "-", "*", "/", "<", "=", "!"}) {
-            faulty(six + first, 1, 12);
+            CHECK.faulty(six + first, 1, 12);
         }
-        faulty(six, 1, 12);
-        fine("wants (((((1)))))+(((((1)))))*(((((1)))));");
-        faulty("wants (((((1)))))+((((((1))))));", 2, 24);
-        faulty("wants 1 or 1 and not 1<1+1*((((((hour))))));", 2, 33);
+        CHECK.faulty(six, 1, 12);
+        CHECK.fine("wants (((((1)))))+(((((1)))))*(((((1)))));");
+        CHECK.faulty("wants (((((1)))))+((((((1))))));", 2, 24);
+        CHECK.faulty("wants 1 or 1 and not 1<1+1*((((((hour))))));", 2, 33);
         gives("(((((1)))))", ALL_DAY);
     }
 
     private static void tooManyNots() {
         CHECK.sentence("the seventh 'not' side by side;");
         String six = "not not not not not not ";
-        fine("wants " + six + "1;");
-        faulty("wants " + six + "not 1;", 2, 30);
-        faulty("wants " + six + "not", 2, 30);
-        faulty("wants " + six + "nothing", 3, 30);
-        fine("wants " + six + "(" + six + "1);");
-        fine("wants " + six + "1 and " + six + "1 or " + six + "1;");
-        faulty("wants 1 and " + six + "not 1;", 2, 36);
-        faulty("wants(" + six + "\nnot\n1);", 2, 31);
+        CHECK.fine("wants " + six + "1;");
+        CHECK.faulty("wants " + six + "not 1;", 2, 30);
+        CHECK.faulty("wants " + six + "not", 2, 30);
+        CHECK.faulty("wants " + six + "nothing", 3, 30);
+        CHECK.fine("wants " + six + "(" + six + "1);");
+        CHECK.fine("wants " + six + "1 and " + six + "1 or " + six + "1;");
+        CHECK.faulty("wants 1 and " + six + "not 1;", 2, 36);
+        CHECK.faulty("wants(" + six + "\nnot\n1);", 2, 31);
         gives(six + "7", ALL_DAY);
         gives("not not not not not 7", 0);
     }
@@ -647,56 +647,56 @@ final class TextEdgesTest {
             "wants 1 and ", "wants 1 or ", "wants 1 and not "};
         for (String head : heads) {
             for (String word : words) {
-                faulty(head + word, 3, head.length());
-                faulty(head + word + ";", 3, head.length());
+                CHECK.faulty(head + word, 3, head.length());
+                CHECK.faulty(head + word + ";", 3, head.length());
             }
             boolean sum = "+-*/<=".indexOf(head.charAt(head.length() - 1)) >= 0;
-            faulty(head + "not", sum ? 3 : 1, sum ? head.length() : head.length() + 3);
+            CHECK.faulty(head + "not", sum ? 3 : 1, sum ? head.length() : head.length() + 3);
         }
-        faulty("wants or or or;", 3, 6);
+        CHECK.faulty("wants or or or;", 3, 6);
     }
 
     private static void untold() {
         CHECK.sentence("a HOUSE, a LAMP that isn't told ahead;");
-        faulty("lamp 0 1;home 0 0;", 3, 5);
-        faulty("home 0 0;lamp 1 1;home 0 0;", 3, 14);
-        fine("home 0 0;home 0 0;lamp 1 1;");
-        faulty("home 0 0;".repeat(8) + "lamp 8 1;", 3, 77);
-        fine("home 0 0;".repeat(8) + "lamp 7 1;");
-        faulty("lamp 9999 1;", 3, 5);
-        faulty("lamp 0 100;", 3, 5);
-        faulty("home 0 0;twins 0 0;", 3, 15);
-        faulty("home 0 0;lamp 0 1;twins 1 0;lamp 0 1;", 3, 24);
-        faulty("home 0 0;lamp 0 1;twins 0 1;lamp 0 1;", 3, 26);
-        fine("home 0 0;lamp 0 1;lamp 0 1;twins 0 1;");
-        faulty(LAMPS + "twins 4 0;", 3, 51);
-        faulty(LAMPS + "twins 3 4;", 3, 53);
-        fine(LAMPS + "twins 3 2;");
-        faulty(LAMPS + "twins 9999 0;", 3, 51);
-        faulty(LAMPS + "twins 0 9999;", 3, 53);
-        faulty("home 0 0;" + "lamp 0 1;".repeat(12) + "twins 11 12;", 3, 126);
+        CHECK.faulty("lamp 0 1;home 0 0;", 3, 5);
+        CHECK.faulty("home 0 0;lamp 1 1;home 0 0;", 3, 14);
+        CHECK.fine("home 0 0;home 0 0;lamp 1 1;");
+        CHECK.faulty("home 0 0;".repeat(8) + "lamp 8 1;", 3, 77);
+        CHECK.fine("home 0 0;".repeat(8) + "lamp 7 1;");
+        CHECK.faulty("lamp 9999 1;", 3, 5);
+        CHECK.faulty("lamp 0 100;", 3, 5);
+        CHECK.faulty("home 0 0;twins 0 0;", 3, 15);
+        CHECK.faulty("home 0 0;lamp 0 1;twins 1 0;lamp 0 1;", 3, 24);
+        CHECK.faulty("home 0 0;lamp 0 1;twins 0 1;lamp 0 1;", 3, 26);
+        CHECK.fine("home 0 0;lamp 0 1;lamp 0 1;twins 0 1;");
+        CHECK.faulty(LAMPS + "twins 4 0;", 3, 51);
+        CHECK.faulty(LAMPS + "twins 3 4;", 3, 53);
+        CHECK.fine(LAMPS + "twins 3 2;");
+        CHECK.faulty(LAMPS + "twins 9999 0;", 3, 51);
+        CHECK.faulty(LAMPS + "twins 0 9999;", 3, 53);
+        CHECK.faulty("home 0 0;" + "lamp 0 1;".repeat(12) + "twins 11 12;", 3, 126);
     }
 
     private static void twinsAlready() {
         CHECK.sentence("4 a LAMP that has a TWIN already, the second one of 'twins' that is the first one;");
-        faulty(LAMPS + "twins 0 1;twins 0 2;", 4, 61);
-        faulty(LAMPS + "twins 0 1;twins 1 2;", 4, 61);
-        faulty(LAMPS + "twins 0 1;twins 2 0;", 4, 63);
-        faulty(LAMPS + "twins 0 1;twins 2 1;", 4, 63);
-        faulty(LAMPS + "twins 0 1;twins 0 0;", 4, 61);
-        faulty(LAMPS + "twins 0 1;twins 1 9;", 4, 61);
-        faulty(LAMPS + "twins 0 1;twins 1", 4, 61);
-        faulty(LAMPS + "twins 0 0;", 4, 53);
-        faulty(LAMPS + "twins 3 0003;", 4, 53);
-        fine(LAMPS + "twins 0 1;twins 3 2;");
+        CHECK.faulty(LAMPS + "twins 0 1;twins 0 2;", 4, 61);
+        CHECK.faulty(LAMPS + "twins 0 1;twins 1 2;", 4, 61);
+        CHECK.faulty(LAMPS + "twins 0 1;twins 2 0;", 4, 63);
+        CHECK.faulty(LAMPS + "twins 0 1;twins 2 1;", 4, 63);
+        CHECK.faulty(LAMPS + "twins 0 1;twins 0 0;", 4, 61);
+        CHECK.faulty(LAMPS + "twins 0 1;twins 1 9;", 4, 61);
+        CHECK.faulty(LAMPS + "twins 0 1;twins 1", 4, 61);
+        CHECK.faulty(LAMPS + "twins 0 0;", 4, 53);
+        CHECK.faulty(LAMPS + "twins 3 0003;", 4, 53);
+        CHECK.fine(LAMPS + "twins 0 1;twins 3 2;");
     }
 
     private static void secondWants() {
         CHECK.sentence("5 a second 'wants'.");
-        faulty("wants 1;wants 1;", 5, 8);
-        faulty("wants 0;home 0 0; wants", 5, 18);
-        faulty("wants 1;wants!", 5, 8);
-        faulty("wants 1;home 0 0;wants 1;wants 1;", 5, 17);
+        CHECK.faulty("wants 1;wants 1;", 5, 8);
+        CHECK.faulty("wants 0;home 0 0; wants", 5, 18);
+        CHECK.faulty("wants 1;wants!", 5, 8);
+        CHECK.faulty("wants 1;home 0 0;wants 1;wants 1;", 5, 17);
         TwinLamps x = new TwinLamps();
         x.street(Check.feed(x, "wants 1;"));
         CHECK.due("each text has a first one", x.street(Check.feed(x, "wants 1;")), 0);
@@ -708,20 +708,6 @@ final class TextEdgesTest {
 
     private static int four(String text) {
         return text.charAt(0) << 24 | text.charAt(1) << 16 | text.charAt(2) << 8 | text.charAt(3);
-    }
-
-    private static void fine(String text) {
-        TwinLamps x = new TwinLamps();
-        CHECK.due("street of " + text, x.street(Check.feed(x, text)), 0);
-        CHECK.due("fault() of " + text, x.fault(), -1);
-    }
-
-    private static void faulty(String text, int fault, int place) {
-        TwinLamps x = new TwinLamps();
-        CHECK.due("street of " + text, x.street(Check.feed(x, text)), fault);
-        CHECK.due("fault() of " + text, x.fault(), place);
-        CHECK.due("STATUS 0 of " + text, x.count(14), 1);
-        CHECK.due("houses of " + text, x.count(0), 0);
     }
 
     /** In which hours an expression wants a lamp with 99 oil of an alley, awake from 22 to 1, which has three. */
